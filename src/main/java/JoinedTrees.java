@@ -242,7 +242,7 @@ public final class JoinedTrees {
             throw new IllegalArgumentException();
         }
         Change change = store.changeAt(actor, number);
-        if (change == null || !giver.has(change)) {
+        if (change == null || !giver.holds(change)) {
             throw new NoSuchElementException();
         }
         needNoneOpen(taker);
@@ -256,7 +256,7 @@ public final class JoinedTrees {
         needNoneOpen(taker);
         for (int i = 0; i < store.changesMade; i++) {
             Change change = store.changes[i];
-            if (giver.has(change) || giver.waits[i]) {
+            if (giver.holds(change) || giver.waits[i]) {
                 taker.expect(change);
             }
         }
@@ -271,7 +271,7 @@ public final class JoinedTrees {
         Change change = null;
         if (actor >= 0) {
             change = store.changeAt(actor, number);
-            if (change == null || !replica.has(change)) {
+            if (change == null || !replica.holds(change)) {
                 throw new NoSuchElementException();
             }
         }
@@ -810,11 +810,15 @@ public final class JoinedTrees {
             this.id = id;
             this.object = object;
             this.sort = sort;
-            this.n = n;
+            this.n = sort == NUMBER || sort == COUNTER || sort == ADD ? n : 0;
         }
 
         boolean isObject() {
             return sort >= MAP && sort <= TEXT;
+        }
+
+        boolean hasLong() {
+            return sort == NUMBER || sort == COUNTER || sort == ADD;
         }
 
         boolean hasPred(Op op) {
@@ -890,12 +894,12 @@ public final class JoinedTrees {
             this.actor = actor;
         }
 
-        boolean has(Change change) {
+        boolean holds(Change change) {
             return change.number <= has[change.actor];
         }
 
         void expect(Change change) {
-            if (!has(change) && !waits[change.serial]) {
+            if (!holds(change) && !waits[change.serial]) {
                 waits[change.serial] = true;
                 waiting++;
             }
@@ -906,7 +910,7 @@ public final class JoinedTrees {
                 return false;
             }
             for (int i = 0; i < change.deps.length; i++) {
-                if (!has(change.deps[i])) {
+                if (!holds(change.deps[i])) {
                     return false;
                 }
             }
@@ -1107,7 +1111,7 @@ public final class JoinedTrees {
             }
         }
 
-        boolean has(Op op) {
+        boolean holds(Op op) {
             return op.change <= clock[op.id & REPLICAS - 1];
         }
 
@@ -1116,7 +1120,7 @@ public final class JoinedTrees {
                 return store.root;
             }
             Op op = id < 0 || id >= store.byId.length ? null : store.byId[id];
-            return op == null || !has(op) ? null : op;
+            return op == null || !holds(op) ? null : op;
         }
 
         /* Leaves the CANDIDATES in found. An OP's PRED are smaller, so they are struck before the walk comes to them. */
@@ -1124,7 +1128,7 @@ public final class JoinedTrees {
             size = 0;
             round++;
             for (Op op = spot.ops; op != null; op = op.below) {
-                if (op.sort != ADD && has(op)) {
+                if (op.sort != ADD && holds(op)) {
                     strikePreds(op);
                     if (op.sort != DELETE && op.struck != round && size < REPLICAS) {
                         found[size] = op;
@@ -1172,7 +1176,7 @@ public final class JoinedTrees {
             long sum = op.n;
             if (op.sort == COUNTER) {
                 for (Op other = op.spot.ops; other != null; other = other.below) {
-                    if (other.sort == ADD && has(other) && other.hasPred(op)) {
+                    if (other.sort == ADD && holds(other) && other.hasPred(op)) {
                         sum += other.n;
                     }
                 }
@@ -1221,11 +1225,11 @@ public final class JoinedTrees {
         Op op;
         Op last;
 
-        void begin(Value around) {
+        void begin(Value around, int keyAt, int keyLength) {
             this.around = around;
+            this.keyAt = keyAt;
+            this.keyLength = keyLength;
             n = 0;
-            keyAt = 0;
-            keyLength = 0;
             bytesAt = 0;
             length = 0;
             filled = false;
@@ -1243,6 +1247,7 @@ public final class JoinedTrees {
         int at;
         int depth;
         Value inside;
+        boolean valueIsDue;
         int keyAt;
         int keyLength;
 
@@ -1264,7 +1269,7 @@ public final class JoinedTrees {
             skipBlanks();
             boolean right = readValue();
             for (int steps = 0; steps <= MOST_GIVEN && right && inside != null; steps++) {
-                right = readInside();
+                right = readInside() && (!valueIsDue || readValue());
             }
             if (right) {
                 skipBlanks();
@@ -1282,7 +1287,7 @@ public final class JoinedTrees {
             return sign == 9 || sign == 10 || sign == 13 || sign == 32;
         }
 
-        /* The end of the innermost MAP or LIST, or the next VALUE in it. */
+        /* The end of the innermost MAP or LIST, or where the next VALUE in it begins. */
         boolean readInside() {
             skipBlanks();
             if (in.at(at) == (inside.sort == MAP ? '}' : ']')) {
@@ -1299,7 +1304,8 @@ public final class JoinedTrees {
                 skipBlanks();
             }
             inside.filled = true;
-            return (inside.sort != MAP || readKey()) && readValue();
+            valueIsDue = true;
+            return inside.sort != MAP || readKey();
         }
 
         boolean readKey() {
@@ -1331,13 +1337,12 @@ public final class JoinedTrees {
         }
 
         boolean readValue() {
+            valueIsDue = false;
             if (size == MOST_VALUES) {
                 return false;
             }
             Value value = values[size];
-            value.begin(inside);
-            value.keyAt = keyAt;
-            value.keyLength = keyLength;
+            value.begin(inside, keyAt, keyLength);
             size++;
             switch (in.at(at)) {
                 case '{':
@@ -1382,46 +1387,33 @@ public final class JoinedTrees {
         /* Ends at the last quote, where a wrong KEY is wrong. */
         boolean readString(int most) {
             at++;
-            for (int i = 0; i <= most; i++) {
+            for (int i = 0; i < most; i++) {
                 int sign = in.at(at);
                 if (sign == '"') {
                     return true;
                 }
-                if (i == most || !readLetter(sign)) {
+                if (sign < 32 || sign > 126) {
+                    return false;
+                }
+                at++;
+                if (sign != '\\') {
+                    decoded.write(sign);
+                } else if (!readEscaped()) {
                     return false;
                 }
             }
-            return false;
+            return in.at(at) == '"';
         }
 
-        boolean readLetter(int sign) {
-            if (sign < 32 || sign > 126) {
+        boolean readEscaped() {
+            int sign = in.at(at);
+            boolean isHex = sign == 'x';
+            if (!isHex && sign != 'n' && sign != 't' && sign != '"' && sign != '\\' && sign != '/') {
                 return false;
             }
             at++;
-            if (sign != '\\') {
-                decoded.write(sign);
-                return true;
-            }
-            return readEscaped(in.at(at));
-        }
-
-        boolean readEscaped(int sign) {
-            if (sign == 'x') {
-                at++;
-                return readHex();
-            }
-            if (sign != 'n' && sign != 't' && sign != '"' && sign != '\\' && sign != '/') {
-                return false;
-            }
-            at++;
-            decoded.write(sign == 'n' ? 10 : sign == 't' ? 9 : sign);
-            return true;
-        }
-
-        boolean readHex() {
-            int b = 0;
-            for (int i = 0; i < 2; i++) {
+            int b = isHex ? 0 : sign == 'n' ? 10 : sign == 't' ? 9 : sign;
+            for (int i = 0; isHex && i < 2; i++) {
                 int digit = hexDigit(in.at(at));
                 if (digit < 0) {
                     return false;
@@ -1434,11 +1426,13 @@ public final class JoinedTrees {
         }
 
         static int hexDigit(int sign) {
-            if (isDigit(sign)) {
+            if (sign >= '0' && sign <= '9') {
                 return sign - '0';
             }
-            int small = sign | 32;
-            return small >= 'a' && small <= 'f' ? small - 'a' + 10 : -1;
+            if (sign >= 'a' && sign <= 'f') {
+                return sign - 'a' + 10;
+            }
+            return sign >= 'A' && sign <= 'F' ? sign - 'A' + 10 : -1;
         }
 
         boolean readWord(Value value, int sort, String word) {
@@ -1473,7 +1467,7 @@ public final class JoinedTrees {
         }
     }
 
-    /* Writes an OBJECT as JSON text. OBJECTS may stand thousands deep in one another: it goes up by their places, not by recursion. */
+    /* Writes an OBJECT as JSON text. OBJECTS may stand thousands deep in one another: so it goes back up by their places, not by recursion. */
     private static final class JsonWriter {
         final View view;
         final Row row = new Row(MOST_TEXT);
@@ -1489,53 +1483,47 @@ public final class JoinedTrees {
                 return row;
             }
             Op object = start;
-            Spot spot = open(start);
+            Spot spot = enter(start);
             boolean going = true;
             for (int steps = 0; steps <= 3 * MOST_OPS && going && !row.spilt; steps++) {
-                if (spot != null) {
-                    Op value = writeAt(spot, object);
-                    boolean opens = value != null && isNest(value);
-                    object = opens ? value : object;
-                    spot = opens ? open(value) : spot.next;
-                } else {
+                Op value = spot == null ? null : view.top(spot);
+                if (spot == null) {
                     row.write(object.sort == MAP ? '}' : ']');
                     going = object != start;
                     spot = going ? object.spot.next : null;
-                    object = object.object;
+                    object = going ? object.object : start;
+                } else if (value == null) {
+                    spot = spot.next;
+                } else {
+                    writeBefore(value);
+                    boolean enters = value.sort == MAP || value.sort == LIST;
+                    if (!enters) {
+                        writePlain(value);
+                    }
+                    object = enters ? value : object;
+                    spot = enters ? enter(value) : spot.next;
                 }
             }
             return row;
         }
 
-        static boolean isNest(Op op) {
-            return op.sort == MAP || op.sort == LIST;
-        }
-
-        Spot open(Op object) {
+        Spot enter(Op object) {
             row.write(object.sort == MAP ? '{' : '[');
             return object.spots;
         }
 
-        /* What's at the place, but for MAPS and LISTS, which the caller goes into; null if nothing is. */
-        Op writeAt(Spot spot, Op object) {
-            Op value = view.top(spot);
-            if (value == null) {
-                return null;
-            }
+        /* Only the first VALUE in an OBJECT has its bracket directly before it. */
+        void writeBefore(Op value) {
             int latest = row.at(row.length - 1);
             if (latest != '{' && latest != '[') {
                 row.write(',');
             }
-            if (object.sort == MAP) {
+            if (value.object.sort == MAP) {
                 row.write('"');
-                writeLetters(spot.maker.bytesAt, spot.maker.keyLength);
+                writeLetters(value.bytesAt, value.keyLength);
                 row.write('"');
                 row.write(':');
             }
-            if (!isNest(value)) {
-                writePlain(value);
-            }
-            return value;
         }
 
         void writePlain(Op value) {
@@ -1551,7 +1539,7 @@ public final class JoinedTrees {
                     break;
                 case STRING:
                     row.write('"');
-                    writeString(value);
+                    writeLetters(value.bytesAt + value.keyLength, value.stringLength);
                     row.write('"');
                     break;
                 case TEXT:
@@ -1575,13 +1563,9 @@ public final class JoinedTrees {
             for (Spot spot = text.spots; spot != null; spot = spot.next) {
                 Op value = view.top(spot);
                 if (value != null && value.sort == STRING) {
-                    writeString(value);
+                    writeLetters(value.bytesAt, value.stringLength);
                 }
             }
-        }
-
-        void writeString(Op op) {
-            writeLetters(op.bytesAt + op.keyLength, op.stringLength);
         }
 
         void writeLetters(int at, int length) {
@@ -1591,24 +1575,22 @@ public final class JoinedTrees {
         }
 
         void writeLetter(int b) {
-            if (b == '"' || b == '\\') {
+            boolean isOwn = b == '"' || b == '\\' || b == 10;
+            boolean isHex = !isOwn && (b < 32 || b > 126);
+            if (isOwn || isHex) {
                 row.write('\\');
-                row.write(b);
-            } else if (b == 10) {
-                row.write('\\');
-                row.write('n');
-            } else if (b < 32 || b > 126) {
-                row.write('\\');
+            }
+            if (isHex) {
                 row.write('x');
-                writeHexDigit(b >> 4);
-                writeHexDigit(b & 15);
+                row.write(hexSign(b >> 4));
+                row.write(hexSign(b & 15));
             } else {
-                row.write(b);
+                row.write(b == 10 ? 'n' : b);
             }
         }
 
-        void writeHexDigit(int digit) {
-            row.write(digit < 10 ? '0' + digit : 'a' + digit - 10);
+        static int hexSign(int digit) {
+            return digit < 10 ? '0' + digit : 'a' + digit - 10;
         }
 
         /* Below 0 there is one number more than above: so the digits are taken from there. */
@@ -1654,7 +1636,7 @@ public final class JoinedTrees {
             for (int a = 0; a < REPLICAS; a++) {
                 for (int i = 0; i < store.changesMade; i++) {
                     Change change = store.changes[i];
-                    if (change.actor == a && replica.has(change)) {
+                    if (change.actor == a && replica.holds(change)) {
                         emitChange(change);
                     }
                 }
@@ -1717,7 +1699,6 @@ public final class JoinedTrees {
         }
 
         void emitBytes(int from, int length) {
-            emitNumber(length);
             for (int i = 0; i < length; i++) {
                 emit(store.kept.at(from + i));
             }
@@ -1745,15 +1726,17 @@ public final class JoinedTrees {
             emitNumber(op.object.id);
             emitNumber(op.sort + (op.inserts ? INSERT_MARK : 0));
             if (op.object.sort == MAP) {
+                emitNumber(op.keyLength);
                 emitBytes(op.bytesAt, op.keyLength);
             } else if (op.inserts) {
                 emitNumber(op.behind == null ? 0 : op.behind.id);
             } else {
                 emitNumber(op.spot.maker.id);
             }
-            if (op.sort == NUMBER || op.sort == COUNTER || op.sort == ADD) {
+            if (op.hasLong()) {
                 emitNumber(op.n << 1 ^ op.n >> 63);
             } else if (op.sort == STRING) {
+                emitNumber(op.stringLength);
                 emitBytes(op.bytesAt + op.keyLength, op.stringLength);
             }
             int preds = op.preds == null ? 0 : op.preds.length;
