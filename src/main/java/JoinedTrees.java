@@ -125,12 +125,11 @@ public final class JoinedTrees {
         int given = takeArguments();
         Replica replica = shown(r);
         needValue(sort, given, 0);
-        Op list = listAt(object);
-        Spot spot = view.spotAt(list, i);
+        Spot spot = view.spotAt(listAt(object), i);
         needSpot(spot);
         needAll(replica);
         needRoom(1, stringLength(sort, first));
-        Op op = writeOn(replica, list, spot, sort, n);
+        Op op = writeOn(replica, spot, sort, n);
         giveString(op, first);
         return op.id;
     }
@@ -165,7 +164,7 @@ public final class JoinedTrees {
         }
         needAll(replica);
         needRoom(n + first.length, first.length);
-        eraseRun(replica, text, i, n);
+        eraseRun(replica, view.spotAt(text, i), n);
         insertRun(replica, text, behind);
         return size - n + first.length;
     }
@@ -177,7 +176,7 @@ public final class JoinedTrees {
         Spot spot = placeAt(object, i);
         needAll(replica);
         needRoom(1, i == -1 ? first.length : 0);
-        return writeOn(replica, objectAt(object), spot, DELETE, 0).id;
+        return writeOn(replica, spot, DELETE, 0).id;
     }
 
     public int add(int r, int object, int i, long n) throws IllegalArgumentException, IllegalStateException, java.util.NoSuchElementException, IndexOutOfBoundsException {
@@ -192,7 +191,7 @@ public final class JoinedTrees {
         }
         needAll(replica);
         needRoom(1, i == -1 ? first.length : 0);
-        return writeOn(replica, objectAt(object), spot, ADD, n).id;
+        return writeOn(replica, spot, ADD, n).id;
     }
 
     public int read(int r, int object) throws IllegalArgumentException, IllegalStateException, java.util.NoSuchElementException, IndexOutOfBoundsException {
@@ -375,7 +374,7 @@ public final class JoinedTrees {
 
     public int text(int r, int object) throws IllegalArgumentException, IllegalStateException, java.util.NoSuchElementException {
         shown(r);
-        Row json = writer.write(objectAt(object));
+        Row json = writer.writeObject(objectAt(object));
         if (json.spilt) {
             throw new IllegalStateException();
         }
@@ -388,7 +387,7 @@ public final class JoinedTrees {
     public int save(int r) throws IllegalArgumentException, IllegalStateException {
         Replica replica = shown(r);
         needNoneOpen(replica);
-        saver.write(replica);
+        saver.writeSaved(replica);
         outIsSaved = true;
         return out.length;
     }
@@ -602,7 +601,7 @@ public final class JoinedTrees {
     private Op writeAtKey(Replica replica, Op map, Row row, int at, int length, int sort, long n) {
         Spot spot = store.spotWith(map, row, at, length);
         if (spot != null) {
-            return writeOn(replica, map, spot, sort, n);
+            return writeOn(replica, spot, sort, n);
         }
         Op op = store.make(replica, map, sort, n);
         store.keepKey(op, row, at, length);
@@ -610,15 +609,17 @@ public final class JoinedTrees {
         return op;
     }
 
-    private Op writeOn(Replica replica, Op object, Spot spot, int sort, long n) {
+    /* CANDIDATES are gathered before the new OP is among them. */
+    private Op writeOn(Replica replica, Spot spot, int sort, long n) {
+        Op maker = spot.maker;
         view.gather(spot);
         if (sort == ADD) {
             view.keepCounters();
         }
-        Op op = store.make(replica, object, sort, n);
+        Op op = store.make(replica, maker.object, sort, n);
         op.preds = view.rising();
-        if (object.sort == MAP) {
-            store.keepKey(op, store.kept, spot.maker.bytesAt, spot.maker.keyLength);
+        if (maker.object.sort == MAP) {
+            store.keepKey(op, store.kept, maker.bytesAt, maker.keyLength);
         }
         spot.link(op);
         return op;
@@ -636,11 +637,11 @@ public final class JoinedTrees {
         }
     }
 
-    private void eraseRun(Replica replica, Op text, int i, int n) {
-        Spot spot = view.spotAt(text, i);
-        for (int left = n; spot != null && left > 0; spot = spot.next) {
+    private void eraseRun(Replica replica, Spot from, int n) {
+        int left = n;
+        for (Spot spot = from; spot != null && left > 0; spot = spot.next) {
             if (view.top(spot) != null) {
-                writeOn(replica, text, spot, DELETE, 0);
+                writeOn(replica, spot, DELETE, 0);
                 left--;
             }
         }
@@ -1003,9 +1004,14 @@ public final class JoinedTrees {
             op.stringLength = length;
         }
 
+        /* Below 0, if the KEY there stands before the one in the row. */
+        int compareKey(Spot spot, Row row, int at, int length) {
+            return kept.compareWith(spot.maker.bytesAt, spot.maker.keyLength, row, at, length);
+        }
+
         Spot spotWith(Op map, Row row, int at, int length) {
             for (Spot spot = map.spots; spot != null; spot = spot.next) {
-                int order = kept.compareWith(spot.maker.bytesAt, spot.maker.keyLength, row, at, length);
+                int order = compareKey(spot, row, at, length);
                 if (order == 0) {
                     return spot;
                 }
@@ -1020,7 +1026,7 @@ public final class JoinedTrees {
         void openKey(Op op) {
             Spot before = null;
             Spot after = op.object.spots;
-            while (after != null && kept.compareWith(after.maker.bytesAt, after.maker.keyLength, kept, op.bytesAt, op.keyLength) < 0) {
+            while (after != null && compareKey(after, kept, op.bytesAt, op.keyLength) < 0) {
                 before = after;
                 after = after.next;
             }
@@ -1111,7 +1117,7 @@ public final class JoinedTrees {
             }
         }
 
-        boolean holds(Op op) {
+        boolean shows(Op op) {
             return op.change <= clock[op.id & REPLICAS - 1];
         }
 
@@ -1120,7 +1126,7 @@ public final class JoinedTrees {
                 return store.root;
             }
             Op op = id < 0 || id >= store.byId.length ? null : store.byId[id];
-            return op == null || !holds(op) ? null : op;
+            return op == null || !shows(op) ? null : op;
         }
 
         /* Leaves the CANDIDATES in found. An OP's PRED are smaller, so they are struck before the walk comes to them. */
@@ -1128,7 +1134,7 @@ public final class JoinedTrees {
             size = 0;
             round++;
             for (Op op = spot.ops; op != null; op = op.below) {
-                if (op.sort != ADD && holds(op)) {
+                if (op.sort != ADD && shows(op)) {
                     strikePreds(op);
                     if (op.sort != DELETE && op.struck != round && size < REPLICAS) {
                         found[size] = op;
@@ -1176,7 +1182,7 @@ public final class JoinedTrees {
             long sum = op.n;
             if (op.sort == COUNTER) {
                 for (Op other = op.spot.ops; other != null; other = other.below) {
-                    if (other.sort == ADD && holds(other) && other.hasPred(op)) {
+                    if (other.sort == ADD && shows(other) && other.hasPred(op)) {
                         sum += other.n;
                     }
                 }
@@ -1467,7 +1473,7 @@ public final class JoinedTrees {
         }
     }
 
-    /* Writes an OBJECT as JSON text. OBJECTS may stand thousands deep in one another: so it goes back up by their places, not by recursion. */
+    /* Writes an OBJECT as JSON text. OBJECTS may stand thousands deep in one another: so it goes back by places, not by recursion. */
     private static final class JsonWriter {
         final View view;
         final Row row = new Row(MOST_TEXT);
@@ -1476,7 +1482,7 @@ public final class JoinedTrees {
             this.view = view;
         }
 
-        Row write(Op start) {
+        Row writeObject(Op start) {
             row.clear();
             if (start.sort == TEXT) {
                 writePlain(start);
@@ -1629,7 +1635,7 @@ public final class JoinedTrees {
             this.out = out;
         }
 
-        void write(Replica replica) {
+        void writeSaved(Replica replica) {
             compares = false;
             out.clear();
             emitNumber(replica.changes);

@@ -21,21 +21,30 @@ public final class ModelTest {
     private static final int RUNS = 120;
     private static final int CALLS = 512;
 
-    public static void main(String[] args) {
-        int from = args.length > 2 ? Integer.parseInt(args[2]) : 0;
+    /** Arguments, all left out as a rule: how many runs, from which seed on, and anything to tell how often each call answered what. */
+    public static void main(String[] args) throws InterruptedException {
         int runs = args.length > 0 ? Integer.parseInt(args[0]) : RUNS;
+        int from = args.length > 1 ? Integer.parseInt(args[1]) : 0;
+        int[] wrong = {1};
+        // the model goes through ELEMENTS by recursion, one level for each that stands behind another
+        Thread thread = new Thread(null, () -> wrong[0] = wrongRuns(from, runs), "model", 256L << 20);
+        thread.start();
+        thread.join();
+        System.out.println(wrong[0] == 0 ? "the model answers the same in " + runs + " runs" : "the model answers otherwise");
+        if (args.length > 2) {
+            System.out.println(Driver.SEEN);
+        }
+        System.exit(wrong[0] == 0 ? 0 : 1);
+    }
+
+    private static int wrongRuns(int from, int runs) {
         int wrong = 0;
         for (int seed = from; seed < from + runs && wrong < 5; seed++) {
-            Driver driver = new Driver(seed);
-            if (!driver.run(CALLS)) {
+            if (!new Driver(seed).run(CALLS)) {
                 wrong++;
             }
         }
-        System.out.println(wrong == 0 ? "the model answers the same in " + runs + " runs" : "the model answers otherwise");
-        if (args.length > 1) {
-            System.out.println(new TreeMap<>(Driver.SEEN));
-        }
-        System.exit(wrong == 0 ? 0 : 1);
+        return wrong;
     }
 
     // ------------------------------------------------------------------ the model
@@ -63,10 +72,10 @@ public final class ModelTest {
         List<MOp> ops = new ArrayList<>();
 
         /** It and all it depends on. */
-        void closure(Set<MChange> into, Model model) {
+        void closure(Set<MChange> into) {
             if (into.add(this)) {
                 for (MChange dep : deps) {
-                    dep.closure(into, model);
+                    dep.closure(into);
                 }
             }
         }
@@ -77,10 +86,6 @@ public final class ModelTest {
         Set<MChange> waits = new HashSet<>();
         List<MOp> open = new ArrayList<>();
         MChange looked;
-    }
-
-    static final class Full extends RuntimeException {
-        private static final long serialVersionUID = 1;
     }
 
     static final class Wrong extends RuntimeException {
@@ -199,7 +204,7 @@ public final class ModelTest {
             Set<MChange> changes = replica.has;
             if (replica.looked != null) {
                 changes = new HashSet<>();
-                replica.looked.closure(changes, this);
+                replica.looked.closure(changes);
             } else {
                 view.take(replica.open);
             }
@@ -623,7 +628,7 @@ public final class ModelTest {
                 return replica.has.size();
             }
             Set<MChange> in = new HashSet<>();
-            replica.looked.closure(in, this);
+            replica.looked.closure(in);
             return in.size();
         }
 
@@ -858,9 +863,8 @@ public final class ModelTest {
             return out.length;
         }
 
-        /** The first CHANGES of each ACTOR whose SAVED it is; null if it's damaged. */
+        /** The first CHANGES of each ACTOR whose SAVED it is; null if it's damaged. They are guessed one by one: OUT begins like SAVED of them. */
         List<MChange> whose() {
-            // every SAVED that was ever made is tried, and all combinations would be too many: so the bytes are tried change by change
             List<MChange> guess = new ArrayList<>();
             for (int limit = 0; limit <= all.size(); limit++) {
                 byte[] made = savedOf(new ArrayList<>(guess));
@@ -868,7 +872,6 @@ public final class ModelTest {
                     return guess;
                 }
                 MChange next = null;
-                // the bytes behind the number of CHANGES: the longest guess that they begin with
                 for (MChange change : all) {
                     if (!guess.contains(change) && (change.number == 1 || guess.contains(change(change.actor, change.number - 1)))) {
                         List<MChange> longer = new ArrayList<>(guess);

@@ -206,7 +206,11 @@ public final class PromiseTest {
         due(2, () -> x.told(1));
         // ARGUMENTS that were taken make room
         due(BAD, () -> x.find(0));
-        due(20, () -> x.feed(0, 0, 0, 0, 0));
+        for (int i = 1; i <= 409; i++) {
+            int length = 20 * i;
+            due(length, () -> x.feed(0, 0, 0, 0, 0));
+        }
+        due(FULL, () -> x.feed(0, 0, 0, 0, 0));
         // bytes come in their order, the highest of a first
         x = new JoinedTrees();
         x.feed('k' << 24, 0, 0, 0, 0);
@@ -690,6 +694,15 @@ public final class PromiseTest {
         due(4, () -> candidateAt(0, 0, "k", 0, 0));
         due(8 * 13, () -> readAt(0, 8, "n", "-999999999999999999"));
         shows("{\"a\":null,\"b\":[1,-2,{\"x\":\"\\n\\x09\\\"\\\\/A\\xff\"}],\"c\":[true,false,[]],\"n\":-999999999999999999}", 0, 8);
+        due(8 * 14, () -> readAt(0, 0, "\u00af\u00fa", "-0"));
+        due(0, () -> candidateAt(0, 0, "\u00af\u00fa", 0, 2));
+        x.drop(0);
+        due(8, () -> readAt(0, 0, "k", "\"\\xAF\\xfa\\x09\""));
+        shows("{\"k\":\"\\xaf\\xfa\\x09\"}", 0, 0);
+        x.drop(0);
+        for (int i = 1; i < 14; i++) {
+            setAt(0, 0, "z", i == 2 ? 7 : 0, 0);
+        }
         due(8 * 14, () -> readAt(0, 0, "z", "-0"));
         due(0, () -> candidateAt(0, 0, "z", 0, 2));
         due(MISSING, () -> readAt(0, 12345, "k", "1"));
@@ -706,7 +719,6 @@ public final class PromiseTest {
         due(MISSING, () -> readAt(0, 12345, "k", "1"));
         due(BAD, () -> readAt(0, 12345, "k", "1 1"));
         due(2, () -> x.told(5));
-        due(14, () -> x.told(2));
         // WHERE stays till the next
         x.look(0, -1, 0);
         readAt(0, 0, "k", "1");
@@ -805,6 +817,7 @@ public final class PromiseTest {
         why(2 * 500 + 1, "[1" + ",1".repeat(498) + " , 1]");
         due(next + 24 + 8 * 500, () -> readAt(0, 0, "k", "[1" + ",1".repeat(497) + ",[]]"));
         why(2 * 499, "[1" + ",1".repeat(497) + ",[[]]]");
+        why(2 * 500 - 1, "[1" + ",1".repeat(498) + ",]");
         // 18 digits
         due(next + 24 + 16 * 500, () -> readAt(0, 0, "k", "999999999999999999"));
         due(999999999999999999L, () -> candidateAt(0, 0, "k", 0, 2));
@@ -1230,6 +1243,8 @@ public final class PromiseTest {
         due(40, () -> findAt("a.b_1[1][0]"));
         due(56, () -> findAt("a.b_1[1][000001].c"));
         due(64, () -> findAt("a.Z"));
+        due(72, () -> setAt(0, 0, "azAZ09_", 0, 0));
+        due(72, () -> findAt("azAZ09_"));
         due(MISSING, () -> findAt("b"));
         due(MISSING, () -> findAt("a.b_1[2]"));
         due(MISSING, () -> findAt("a.b_1.c"));
@@ -1239,7 +1254,7 @@ public final class PromiseTest {
         due(MISSING, () -> findAt("a.b_1[999999]"));
         due(MISSING, () -> findAt("a".repeat(64)));
         String[] bad = {"", ".a", "[0]", "a.", "a..b", "a[", "a[]", "a[0", "a[0]b", "a[1234567]", "a[-1]", "a[x]", "a b", "a-b",
-            "a]", "a.[0]", "a\u00e4", "a".repeat(65), "b." + "a".repeat(65), "b.", "b[0]]", "a[0000000]"};
+            "a]", "a@", "a`", "a{", "a/", "a:", "a.[0]", "a\u00e4", "a".repeat(65), "b." + "a".repeat(65), "b.", "b[0]]", "a[0000000]"};
         for (String path : bad) {
             due(BAD, () -> findAt(path));
         }
@@ -1628,15 +1643,35 @@ public final class PromiseTest {
         due(24576, () -> x.told(4));
         give("k");
         due(FULL, () -> x.erase(0, 0, -1));
-        x.insert(0, list, 0, 5, 1);
+        due(8 * 26, () -> x.insert(0, list, 0, 5, 1));
+        x.drop(0);
+        // those that went are counted, too
+        due(FULL, () -> setAt(0, 0, "k", 0, 0));
+        x = new JoinedTrees();
+        setAt(0, 0, "k", 5, 0);
+        for (int i = 0; i < 23; i++) {
+            setString(0, 0, "l", "s".repeat(1024));
+        }
+        setString(0, 0, "l", "s".repeat(999));
+        give("k");
+        due(FULL, () -> x.add(0, 0, -1, 1));
+        // in a LIST no KEY is needed
+        x = new JoinedTrees();
+        int some = setAt(0, 0, "l", 7, 0);
+        for (int i = 0; i < 23; i++) {
+            setString(0, 0, "s", "s".repeat(1024));
+        }
+        setString(0, 0, "s", "s".repeat(999));
+        due(24576, () -> x.told(4));
+        x.insert(0, some, 0, 5, 1);
         give("s");
-        due(FULL, () -> x.insert(0, list, 0, 4, 0));
+        due(FULL, () -> x.insert(0, some, 0, 4, 0));
         give("s");
-        due(FULL, () -> x.put(0, list, 0, 4, 0));
+        due(FULL, () -> x.put(0, some, 0, 4, 0));
         give("");
-        due(8 * 27, () -> x.insert(0, list, 0, 4, 0));
-        due(8 * 28, () -> x.add(0, list, 1, 1));
-        due(8 * 29, () -> x.erase(0, list, 0));
+        due(8 * 27, () -> x.insert(0, some, 0, 4, 0));
+        due(8 * 28, () -> x.add(0, some, 1, 1));
+        due(8 * 29, () -> x.erase(0, some, 0));
         x.commit(0);
         x.look(0, 0, 1);
         due(REFUSED, () -> setAt(0, 0, "kk", 0, 0));
@@ -1658,6 +1693,16 @@ public final class PromiseTest {
         due(1, () -> x.drop(0));
         x.save(0);
         due(1000, () -> x.load(6));
+        // the number of CHANGES takes one byte up to 127, then two
+        for (int more : new int[] {127, 1, 1, 127, 1}) {
+            int before = x.count(4, 0);
+            for (int i = 1; i <= more; i++) {
+                x.send(0, 4, 0, before + i);
+            }
+            x.save(4);
+            int replica = 5;
+            due(more, () -> x.load(replica));
+        }
         shows("{\"l\":[1000]}", 6, 0);
     }
 
