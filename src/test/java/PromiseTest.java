@@ -1,30 +1,8 @@
-import java.nio.charset.StandardCharsets;
-import java.util.NoSuchElementException;
-import java.util.zip.CRC32;
-
 /**
  * For each promise of the document: ordinary inputs, the edges it names, and wrong inputs. Where a limit takes more
  * than 512 calls to come to, a test makes more: the class doesn't count them.
  */
-public final class PromiseTest {
-    private static final Class<?> BAD = IllegalArgumentException.class;
-    private static final Class<?> MISSING = NoSuchElementException.class;
-    private static final Class<?> REFUSED = IllegalStateException.class;
-    private static final Class<?> FULL = IndexOutOfBoundsException.class;
-    private static final Class<?> DAMAGED = ArithmeticException.class;
-
-    private static int wrong;
-    private static String promise;
-    private static JoinedTrees x;
-
-    interface Call {
-        long answer();
-    }
-
-    interface Test {
-        void run();
-    }
-
+public final class PromiseTest extends Trial {
     public static void main(String[] args) {
         test("1 a new object", PromiseTest::newObject);
         test("2 feed", PromiseTest::feed);
@@ -64,108 +42,7 @@ public final class PromiseTest {
         test("29 told", PromiseTest::told);
         test("terms: FULL", PromiseTest::fullStore);
         test("terms: the order of refusals", PromiseTest::orderOfRefusals);
-        System.out.println(wrong == 0 ? "all promises hold" : wrong + " answers are wrong");
-        System.exit(wrong == 0 ? 0 : 1);
-    }
-
-    private static void test(String name, Test test) {
-        promise = name;
-        x = new JoinedTrees();
-        test.run();
-    }
-
-    private static void due(long due, Call call) {
-        Object got;
-        try {
-            got = call.answer();
-        } catch (RuntimeException e) {
-            got = e;
-        }
-        check(String.valueOf(due), String.valueOf(got));
-    }
-
-    private static void due(Class<?> due, Call call) {
-        String got;
-        try {
-            got = String.valueOf(call.answer());
-        } catch (RuntimeException e) {
-            got = e.getClass().getName();
-        }
-        check(due.getName(), got);
-    }
-
-    private static void check(String due, String got) {
-        if (!due.equals(got)) {
-            wrong++;
-            StackTraceElement[] trace = new Throwable().getStackTrace();
-            int line = 0;
-            for (StackTraceElement element : trace) {
-                if (line == 0 && !element.getMethodName().matches("check|due|shows|why")) {
-                    line = element.getLineNumber();
-                }
-            }
-            System.out.println("promise " + promise + ", line " + line + ": due " + due + ", got " + got);
-        }
-    }
-
-    private static byte[] bytes(String text) {
-        return text.getBytes(StandardCharsets.ISO_8859_1);
-    }
-
-    private static int give(byte[] bytes) {
-        int fed = 0;
-        while (fed < bytes.length) {
-            int[] five = new int[5];
-            for (int i = 0; i < 20 && fed + i < bytes.length; i++) {
-                five[i / 4] |= (bytes[fed + i] & 255) << 24 - 8 * (i % 4);
-            }
-            x.feed(five[0], five[1], five[2], five[3], five[4]);
-            fed += 20;
-        }
-        return x.end(fed - bytes.length);
-    }
-
-    private static int give(String... texts) {
-        int given = 0;
-        for (String text : texts) {
-            given = give(bytes(text));
-        }
-        return given;
-    }
-
-    private static int setAt(int r, int object, String key, int sort, long n) {
-        give(key);
-        return x.set(r, object, sort, n);
-    }
-
-    private static int setString(int r, int object, String key, String string) {
-        give(key, string);
-        return x.set(r, object, 4, 0);
-    }
-
-    private static int readAt(int r, int object, String key, String json) {
-        give(key, json);
-        return x.read(r, object);
-    }
-
-    private static String outText() {
-        byte[] bytes = new byte[x.told(6)];
-        for (int i = 0; i < bytes.length; i++) {
-            bytes[i] = (byte) (x.out(i / 8) >> 56 - 8 * (i % 8));
-        }
-        return new String(bytes, StandardCharsets.ISO_8859_1);
-    }
-
-    private static void shows(String due, int r, int object) {
-        int length = x.text(r, object);
-        String got = outText();
-        check(due, got);
-        check(String.valueOf(due.length()), String.valueOf(length));
-    }
-
-    private static long candidateAt(int r, int object, String key, int c, int what) {
-        give(key);
-        return x.candidate(r, object, -1, c, what);
+        conclude("all promises hold");
     }
 
     // ---------------------------------------------------------------- 1 to 3
@@ -509,19 +386,6 @@ public final class PromiseTest {
         String saved = outText();
         check(ops, saved.substring(saved.length() - 4 - ops.length(), saved.length() - 4));
         shows("\"habl!\\n\"", 0, text);
-    }
-
-    private static String bytesText(int... bytes) {
-        StringBuilder text = new StringBuilder();
-        for (int b : bytes) {
-            int rest = b;
-            while (rest > 127) {
-                text.append((char) (rest & 127 | 128));
-                rest >>= 7;
-            }
-            text.append((char) rest);
-        }
-        return text.toString();
     }
 
     private static void spliceFull() {
@@ -1229,34 +1093,29 @@ public final class PromiseTest {
         due(0, () -> x.index(0, list, a));
     }
 
-    private static long findAt(String path) {
-        give(path);
-        return x.find(0);
-    }
-
     private static void find() {
         readAt(0, 0, "a", "{\"b_1\":[10,[20,{\"c\":null}]],\"Z\":1}");
-        due(8, () -> findAt("a"));
-        due(16, () -> findAt("a.b_1"));
-        due(24, () -> findAt("a.b_1[0]"));
-        due(32, () -> findAt("a.b_1[1]"));
-        due(40, () -> findAt("a.b_1[1][0]"));
-        due(56, () -> findAt("a.b_1[1][000001].c"));
-        due(64, () -> findAt("a.Z"));
+        due(8, () -> findAt(0, "a"));
+        due(16, () -> findAt(0, "a.b_1"));
+        due(24, () -> findAt(0, "a.b_1[0]"));
+        due(32, () -> findAt(0, "a.b_1[1]"));
+        due(40, () -> findAt(0, "a.b_1[1][0]"));
+        due(56, () -> findAt(0, "a.b_1[1][000001].c"));
+        due(64, () -> findAt(0, "a.Z"));
         due(72, () -> setAt(0, 0, "azAZ09_", 0, 0));
-        due(72, () -> findAt("azAZ09_"));
-        due(MISSING, () -> findAt("b"));
-        due(MISSING, () -> findAt("a.b_1[2]"));
-        due(MISSING, () -> findAt("a.b_1.c"));
-        due(MISSING, () -> findAt("a[0]"));
-        due(MISSING, () -> findAt("a.Z.c"));
-        due(MISSING, () -> findAt("a.Z[0]"));
-        due(MISSING, () -> findAt("a.b_1[999999]"));
-        due(MISSING, () -> findAt("a".repeat(64)));
+        due(72, () -> findAt(0, "azAZ09_"));
+        due(MISSING, () -> findAt(0, "b"));
+        due(MISSING, () -> findAt(0, "a.b_1[2]"));
+        due(MISSING, () -> findAt(0, "a.b_1.c"));
+        due(MISSING, () -> findAt(0, "a[0]"));
+        due(MISSING, () -> findAt(0, "a.Z.c"));
+        due(MISSING, () -> findAt(0, "a.Z[0]"));
+        due(MISSING, () -> findAt(0, "a.b_1[999999]"));
+        due(MISSING, () -> findAt(0, "a".repeat(64)));
         String[] bad = {"", ".a", "[0]", "a.", "a..b", "a[", "a[]", "a[0", "a[0]b", "a[1234567]", "a[-1]", "a[x]", "a b", "a-b",
             "a]", "a@", "a`", "a{", "a/", "a:", "a.[0]", "a\u00e4", "a".repeat(65), "b." + "a".repeat(65), "b.", "b[0]]", "a[0000000]"};
         for (String path : bad) {
-            due(BAD, () -> findAt(path));
+            due(BAD, () -> findAt(0, path));
         }
         due(BAD, () -> x.find(0));
         give("a", "b");
@@ -1267,7 +1126,7 @@ public final class PromiseTest {
         int text = setAt(0, 0, "t", 8, 0);
         give("xy");
         x.splice(0, text, 0, 0);
-        due(text + 16, () -> findAt("t[1]"));
+        due(text + 16, () -> findAt(0, "t[1]"));
         x.commit(0);
         x.join(0, 1);
         setAt(0, 0, "a", 3, 0);
@@ -1275,9 +1134,9 @@ public final class PromiseTest {
         x.commit(0);
         x.commit(1);
         x.join(1, 0);
-        due(text + 25, () -> findAt("a"));
+        due(text + 25, () -> findAt(0, "a"));
         x.look(0, 0, 1);
-        due(64, () -> findAt("a.Z"));
+        due(64, () -> findAt(0, "a.Z"));
     }
 
     // ---------------------------------------------------------------- 23 to 29
@@ -1340,20 +1199,6 @@ public final class PromiseTest {
         due(REFUSED, () -> x.text(0, 0));
         due(1, () -> x.told(7));
         shows("{}", 0, inner);
-    }
-
-    private static String withCrc(String body) {
-        CRC32 crc = new CRC32();
-        crc.update(bytes(body));
-        long value = crc.getValue();
-        return body + (char) (value >> 24) + (char) (value >> 16 & 255) + (char) (value >> 8 & 255) + (char) (value & 255);
-    }
-
-    private static void saves(String body, int r) {
-        String due = withCrc(body);
-        due(due.length(), () -> x.save(r));
-        check(due, outText());
-        due(1, () -> x.told(7));
     }
 
     private static void save() {
@@ -1439,19 +1284,6 @@ public final class PromiseTest {
         due(0, () -> x.load(3));
     }
 
-    /** Turns bits over till OUT is that. */
-    private static void forge(String due) {
-        String now = outText();
-        for (int i = 0; i < now.length(); i++) {
-            for (int bit = 0; bit < 8; bit++) {
-                if (((now.charAt(i) ^ due.charAt(i)) >> bit & 1) != 0) {
-                    x.harm(i, bit);
-                }
-            }
-        }
-        check(due, outText());
-    }
-
     private static void loadDamaged() {
         setAt(0, 0, "a", 3, 1);
         x.commit(0);
@@ -1520,11 +1352,6 @@ public final class PromiseTest {
         check("z}", outText());
         due(2, () -> x.told(6));
         due(0, () -> x.told(7));
-    }
-
-    private static long harmed(int i, int bit) {
-        x.harm(i, bit);
-        return 0;
     }
 
     private static void out() {
