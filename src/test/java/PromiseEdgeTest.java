@@ -18,6 +18,7 @@ public final class PromiseEdgeTest extends Edges {
         test("10 read, STRINGS and KEYS", PromiseEdgeTest::readStrings);
         test("10 read, depth and number", PromiseEdgeTest::readMuch);
         test("10 read, order", PromiseEdgeTest::readOrder);
+        test("10 read, again and again", PromiseEdgeTest::readAgain);
         test("11 commit", PromiseEdgeTest::commit);
         test("12 drop", PromiseEdgeTest::drop);
         test("13 send", PromiseEdgeTest::send);
@@ -33,6 +34,8 @@ public final class PromiseEdgeTest extends Edges {
         test("23 text", PromiseEdgeTest::text);
         test("24 save", PromiseEdgeTest::save);
         test("25 load", PromiseEdgeTest::load);
+        test("25 load, numbers of CHANGES", PromiseEdgeTest::loadNumbers);
+        test("25 load, other CHANGES", PromiseEdgeTest::forged);
         test("26 harm", PromiseEdgeTest::harm);
         test("27 out", PromiseEdgeTest::out);
         test("28 count", PromiseEdgeTest::count);
@@ -105,6 +108,12 @@ public final class PromiseEdgeTest extends Edges {
         within(20, () -> {
             giveBlanks(8180);
             answerOf(() -> x.find(0));
+        }, more);
+        within(20, () -> {
+            giveBlanks(20);
+            giveBlanks(8160);
+            answerOf(() -> x.find(0));
+            giveBlanks(8172);
         }, more);
         // INPUT that was refused more is still what it was
         tell(() -> {
@@ -321,6 +330,10 @@ public final class PromiseEdgeTest extends Edges {
         due(NEXT + 8, () -> addAt(0, 0, "k", 2));
         due(1, () -> candidateAt(0, 0, "k", 0, 2));
         due(3, () -> candidateAt(0, 0, "k", 1, 2));
+        x.commit(0);
+        x.save(0);
+        String op = bytesText(0, 10, 1, 'k', 4, 1, NEXT);
+        check("has only the counter in PRED", outText().contains(op) ? "has only the counter in PRED" : outText());
         // the counter that went by it is none
         tell(both);
         setAt(0, 0, "k", 3, 1);
@@ -499,6 +512,33 @@ public final class PromiseEdgeTest extends Edges {
         due(1, () -> x.told(4));
     }
 
+    private static void readAgain() {
+        // what one text left behind, right or wrong, is nothing to the next one
+        String[] right = {"[1,[2,\"a\"],{\"b\":{}}]", "{\"a\":[],\"b\":\"c\"}", "\"str\"", "[]", "{}", "-12", "null", "[[1],[2],[3]]"};
+        String[] wrong = {"[".repeat(21), "[[[[1,", "{\"a\":{\"b\":[", "\"abc", "{\"a\":1,\"a\":2}", "-", "[1", "{\"a\""};
+        for (String before : wrong) {
+            for (String first : right) {
+                for (String second : right) {
+                    x = new JoinedTrees();
+                    due(8, () -> readAt(0, 0, "k", first));
+                    due(BAD, () -> readAt(0, 0, "k", before));
+                    due(8 * x.count(0, 5) + 8, () -> readAt(0, 0, "l", second));
+                    shows("{\"k\":" + first + ",\"l\":" + second + "}", 0, 0);
+                }
+            }
+        }
+        right("[" + "[],".repeat(40) + "{}]", "[" + "[],".repeat(40) + "{}]");
+        right("[" + "{},".repeat(40) + "[]]", "[" + "{},".repeat(40) + "[]]");
+        right("[" + "[[[]]],".repeat(40) + "{}]", "[" + "[[[]]],".repeat(40) + "{}]");
+        // as many bytes in all as may be made, text by text
+        x = new JoinedTrees();
+        for (int i = 1; i < 24; i++) {
+            String string = "\"" + "s".repeat(1000 + i) + "\"";
+            due(8 * i, () -> readAt(0, 0, "k", string));
+            shows("{\"k\":" + string + "}", 0, 0);
+        }
+    }
+
     private static void readOrder() {
         // SYNTAX is ahead of all that is missing, REFUSED or FULL
         Step wrong = () -> {
@@ -585,6 +625,25 @@ public final class PromiseEdgeTest extends Edges {
         due(0, () -> x.count(0, 5));
         due(11, () -> x.told(2));
         due(8, () -> setAt(0, 0, "k", 0, 0));
+        // their OPIDS come again, for other OPS, at any replica
+        for (int r = 0; r < 8; r++) {
+            int replica = r;
+            tell(() -> {
+                shared();
+                x.join(0, 6);
+            });
+            for (int again = 0; again < 3; again++) {
+                due(NEXT + replica, () -> setAt(replica, 0, "o", 7, 0));
+                due(NEXT + 8 + replica, () -> x.insert(replica, NEXT + replica, 0, 0, 0));
+                due(2, () -> x.drop(replica));
+                due(MISSING, () -> x.object(replica, NEXT + replica, 0));
+                due(NEXT + replica, () -> x.insert(replica, LIST, 1, 3, 9));
+                shows("[1,9,2]", replica, LIST);
+                due(1, () -> x.drop(replica));
+            }
+            shows("[1,2]", replica, LIST);
+            due(11, () -> x.count(replica, 4));
+        }
         // those of another replica stay
         within(0, PromiseEdgeTest::some, () -> x.drop(1));
         due(11, () -> x.count(0, 3));
@@ -930,6 +989,14 @@ public final class PromiseEdgeTest extends Edges {
             "zz.", "zz[", "m.in[0]x"}) {
             beyond(BAD, sharedWith(path), () -> x.find(0));
         }
+        // INDICES of several digits
+        tell(PromiseEdgeTest::nothing);
+        readAt(0, 0, "l", "[0" + ",0".repeat(120) + "]");
+        for (int i : new int[] {9, 10, 11, 19, 20, 99, 100, 101, 120}) {
+            due(8 * (i + 2), () -> findAt(0, "l[" + i + "]"));
+            due(8 * (i + 2), () -> findAt(0, "l[" + String.format("%06d", i) + "]"));
+        }
+        due(MISSING, () -> findAt(0, "l[121]"));
         // letters, digits and _, no sign beside them
         for (int b = 0; b < 256; b++) {
             String sign = String.valueOf((char) b);
@@ -977,6 +1044,10 @@ public final class PromiseEdgeTest extends Edges {
         };
         beyondLeaving(REFUSED, shownBefore, () -> x.text(0, 0));
         beyondLeaving(REFUSED, () -> textOf(20000), () -> x.text(0, 0));
+        // one that fits is written after one that didn't
+        tell(shownBefore);
+        answerOf(() -> x.text(0, 0));
+        due(2, () -> x.text(1, 0));
         // OUT stays SAVED, and harmed as it is
         beyondLeaving(REFUSED, () -> {
             textOf(16385);
@@ -1076,7 +1147,40 @@ public final class PromiseEdgeTest extends Edges {
             saved.run();
             x.harm(length - 1, 7);
         }, () -> x.load(1));
-        forged();
+    }
+
+    private static void loadNumbers() {
+        // none, and each number of CHANGES near those where its BYTES are more
+        within(0, () -> x.save(0), () -> x.load(1));
+        for (int number : new int[] {1, 2, 126, 127, 128, 129, 130, 255, 256, 257, 384, 999, 1000}) {
+            tell(() -> {
+                for (int i = 0; i < number; i++) {
+                    setAt(1 + i % 4, 0, "k", 0, 0);
+                    x.commit(1 + i % 4);
+                }
+                for (int r = 2; r < 5; r++) {
+                    x.join(r, 1);
+                }
+                x.save(1);
+            });
+            due(number, () -> x.load(6));
+            // what was loaded is nothing to the next load
+            due(5, () -> x.save(7));
+            due(0, () -> x.load(5));
+            due(0, () -> x.count(5, 1));
+            x.save(6);
+            due(number, () -> x.load(5));
+        }
+        // there are CHANGES that come behind those of OUT, whatever the CRC's bytes are
+        for (int n = 0; n < 1000; n++) {
+            x = new JoinedTrees();
+            setAt(0, 0, "k", 3, n);
+            x.commit(0);
+            x.save(0);
+            setAt(0, 0, "k", 3, n);
+            x.commit(0);
+            due(1, () -> x.load(1));
+        }
     }
 
     /** OUT becomes what SAVED is of other CHANGES, where that is as long as SAVED of replica 5. */

@@ -292,6 +292,19 @@ public final class TermsEdgeTest extends Edges {
             due(sum[2], () -> candidateAt(0, 0, "c", 0, 2));
             shows("{\"c\":" + sum[2] + "}", 0, 0);
         }
+        // each counter has the ADDS of those that knew it
+        x = new JoinedTrees();
+        for (int r = 0; r < 2; r++) {
+            setAt(r, 0, "c", 5, 10 * r + 10);
+            addAt(r, 0, "c", r + 1);
+            x.commit(r);
+        }
+        x.join(0, 1);
+        due(22, () -> candidateAt(1, 0, "c", 0, 2));
+        due(11, () -> candidateAt(1, 0, "c", 1, 2));
+        addAt(1, 0, "c", 100);
+        due(122, () -> candidateAt(1, 0, "c", 0, 2));
+        due(111, () -> candidateAt(1, 0, "c", 1, 2));
         // ADDS of three replicas wrap twice, whatever came first
         x = new JoinedTrees();
         setAt(0, 0, "c", 5, Long.MAX_VALUE);
@@ -354,9 +367,29 @@ public final class TermsEdgeTest extends Edges {
         }
         due(15, () -> candidateAt(4, 0, "k", 0, 1));
         due(8, () -> candidateAt(4, 0, "k", 7, 1));
+        // the greatest OPID first, also if it was made first
+        tell(TermsEdgeTest::nothing);
+        for (int r = 7; r >= 0; r--) {
+            for (int i = 0; i <= r % 3; i++) {
+                setAt(r, 0, "k", 3, 10 * r + i);
+            }
+            x.commit(r);
+        }
+        for (int r = 7; r > 0; r--) {
+            x.join(r, 0);
+        }
+        int[] due = {52, 22, 71, 41, 11, 60, 30, 0};
+        for (int c = 0; c < 8; c++) {
+            int number = c;
+            due(due[c], () -> candidateAt(0, 0, "k", number, 2));
+        }
+        // a DELETE goes with what its replica had; others stay
+        tell(TermsEdgeTest::nothing);
+        setAt(4, 0, "k", 3, 1);
+        x.commit(4);
+        x.join(4, 5);
         eraseAt(4, 0, "k");
         due(MISSING, () -> candidateAt(4, 0, "k", 0, 4));
-        // a DELETE goes with what its replica had; others stay
         x.commit(4);
         setAt(5, 0, "k", 3, 50);
         x.commit(5);
@@ -366,34 +399,48 @@ public final class TermsEdgeTest extends Edges {
     }
 
     private static void elements() {
-        // at the beginning, behind the last, and behind one that has nothing: each by three replicas at the same time
+        // at the beginning, at the end, and behind one that all erase: whichever replica does it first
+        for (int[] order : new int[][] {{0, 1, 2}, {2, 1, 0}, {1, 2, 0}}) {
+            tell(TermsEdgeTest::nothing);
+            int list = setAt(0, 0, "l", 7, 0);
+            x.insert(0, list, 0, 3, 1);
+            x.insert(0, list, 1, 3, 2);
+            x.commit(0);
+            x.join(0, 1);
+            x.join(0, 2);
+            for (int r : order) {
+                x.insert(r, list, 0, 3, 10 + r);
+                x.insert(r, list, 3, 3, 20 + r);
+                x.insert(r, list, 2, 3, 30 + r);
+                x.erase(r, list, 1);
+                x.commit(r);
+            }
+            x.join(0, 1);
+            x.join(2, 1);
+            x.join(1, 0);
+            x.join(1, 2);
+            for (int r = 0; r < 3; r++) {
+                shows("[12,11,10,32,31,30,2,22,21,20]", r, list);
+            }
+            // the ELEMENT that all erased still has its place
+            due(3, () -> x.index(0, list, 16));
+            due(32, () -> x.candidate(0, list, 3, 0, 2));
+            due(31, () -> x.candidate(0, list, 4, 0, 2));
+        }
+        // one made without those of others, but with a smaller OPID, goes behind them and all that's behind them
         tell(TermsEdgeTest::nothing);
         int list = setAt(0, 0, "l", 7, 0);
-        x.insert(0, list, 0, 3, 1);
-        x.insert(0, list, 1, 3, 2);
         x.commit(0);
         x.join(0, 1);
-        x.join(0, 2);
-        for (int r = 0; r < 3; r++) {
-            x.insert(r, list, 0, 3, 10 + r);
-            x.insert(r, list, 3, 3, 20 + r);
-            x.insert(r, list, 2, 3, 30 + r);
-            x.erase(r, list, 1);
+        for (int i = 0; i < 3; i++) {
+            x.insert(1, list, i, 3, 10 + i);
         }
-        for (int r = 0; r < 3; r++) {
-            x.commit(r);
-        }
+        x.insert(0, list, 0, 3, 0);
+        x.insert(0, list, 1, 3, 1);
+        x.commit(0);
+        x.commit(1);
         x.join(0, 1);
-        x.join(2, 1);
-        x.join(1, 0);
-        x.join(1, 2);
-        for (int r = 0; r < 3; r++) {
-            shows("[12,11,10,32,31,30,2,22,21,20]", r, list);
-        }
-        // the ELEMENT that all erased still has its place
-        due(3, () -> x.index(0, list, 16));
-        due(31, () -> x.candidate(0, list, 4, 0, 2));
-        due(32, () -> x.candidate(0, list, 3, 0, 2));
+        shows("[10,11,12,0,1]", 1, list);
     }
 
     private static void indices() {
@@ -585,6 +632,14 @@ public final class TermsEdgeTest extends Edges {
         beyondLeaving(FULL, none, () -> x.commit(0));
         beyondLeaving(REFUSED, none, () -> x.commit(1));
         beyondLeaving(BAD, none, () -> x.commit(8));
+        // all 1000 of one ACTOR: what goes then isn't shown, what stays is
+        tell(() -> leaveChanges(0));
+        due(1000, () -> x.count(6, 16));
+        due(8 * 1001 + 6, () -> setAt(6, 0, "o", 0, 0));
+        shows("{\"k\":null,\"o\":null}", 6, 0);
+        due(1, () -> x.drop(6));
+        shows("{\"k\":null}", 6, 0);
+        due(1000, () -> x.look(6, 6, 1000));
         // OPEN OPS can still be made, and go
         tell(none);
         due(NEXT + 8, () -> setAt(0, 0, "k", 0, 0));
